@@ -253,6 +253,9 @@ public final class InstructionsTest {
         Due.stack("} of -3", none, 0, 0, 9);
         GridMachine most = fed("90{45~}", 7, MAX);
         Due.stack("} of MAX", most, 0, 0, 9, 4, 5);
+        GridMachine pushed = Due.ticked("90{45671}83{", 12);
+        Due.stack("90{45671}83{", pushed, 0, 0);
+        Due.stack("90{45671}83{", pushed, 0, 1, 9, 7, 8);
         GridMachine empty = Due.ticked("90{}", 4);
         Due.stack("} of an empty stack", empty, 0, 0, 9);
         GridMachine middle = Due.ticked("10{20{34562}", 12);

@@ -15,6 +15,7 @@ public final class PromisesTest {
         promise4Load();
         promise4LoadOfInvalidTexts();
         promise5Rewind();
+        promise5RewindOfPointers();
         promise6Feed();
         promise7Poke();
         promise8Tick();
@@ -22,6 +23,7 @@ public final class PromisesTest {
         promise9RunWithSeveralPointers();
         promise10SetBreakpoint();
         promise11Undo();
+        promise11UndoOfInputAndOutput();
         promise12TicksToHalt();
         promise13CycleStart();
         promise13ConfigurationsThatDiffer();
@@ -219,6 +221,20 @@ public final class PromisesTest {
         Due.is("rewind(): the snapshot stays", x.restore(1), 7);
     }
 
+    /** Each of these runs leaves another part of the pointer that differs from a new one. */
+    private static void promise5RewindOfPointers() {
+        String[] programs = {"v", "<", "^", "1@", "9w", "111111111111", "1{1{1", "tttt"};
+        for (String program : programs) {
+            GridMachine x = Due.machine(program);
+            String before = Due.look(x);
+            x.tick(program.equals("9w") ? 5 : 17);
+            x.rewind();
+            x.save(0);
+            x.restore(0);
+            Due.same("rewind() of " + program, Due.look(x), before.replaceAll(" undo .*", " undo 0"));
+        }
+    }
+
     private static void promise6Feed() {
         GridMachine x = Due.machine("~.");
         for (int i = 0; i < 16; i++) {
@@ -410,6 +426,30 @@ public final class PromisesTest {
         Due.is("position(0)", again.position(0), 0);
     }
 
+    private static void promise11UndoOfInputAndOutput() {
+        GridMachine x = Due.machine("~.~.");
+        x.feed(5);
+        x.feed(6);
+        x.feed(7);
+        x.tick(2);
+        x.save(0);
+        x.rewind();
+        x.tick(4);
+        Due.output("behind rewind()", x, 6, 7);
+        x.undo();
+        x.undo();
+        Due.output("undo() of rewind()", x, 5);
+        x.tick(2);
+        Due.output("undo() brings the queue back", x, 5, 6);
+        x.rewind();
+        x.tick(2);
+        Due.output("behind another rewind()", x, 7);
+        x.restore(0);
+        Due.output("restore()", x, 5);
+        Due.is("tick(12)", x.tick(12), 12);
+        Due.output("restore() brings the queue back", x, 5, 6, 7);
+    }
+
     private static void promise12TicksToHalt() {
         GridMachine x = Due.machine("123@");
         for (int limit : WRONG_LIMITS) {
@@ -490,6 +530,17 @@ public final class PromisesTest {
         // In the third round the queue runs empty; then the pointer goes to and fro between "~" and itself.
         Due.is("an input queue that runs empty", queue.cycleStart(200), 26);
         Due.is("an input queue that runs empty: cycleLength", queue.cycleLength(200), 24);
+        // A queue that nobody takes from is the same in each configuration.
+        GridMachine untouched = Due.machine(RING);
+        untouched.feed(3);
+        untouched.feed(4);
+        Due.is("a queue that stays", untouched.cycleStart(200), 1);
+        // The cell (0, 0) alone differs: the first round puts "$" there.
+        Due.is("the first cell", Due.machine("66*00p").cycleStart(200), 6);
+        // Pointer 0 goes round in a ring of four; pointer 1 comes to the "@" behind tick 7 and is stopped behind tick 8.
+        Due.is("the status", Due.machine("t>v  @\n ^<").cycleStart(200), 8);
+        // The border between the stacks alone differs: the first round moves it up to the last value.
+        Due.is("the sizes of the stacks", Due.machine("551{v\n1}0{>").cycleStart(200), 15);
         // The number of stacks alone differs in the first two rounds.
         Due.is("the number of stacks", Due.machine("5{").cycleStart(200), 14);
     }
