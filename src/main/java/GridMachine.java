@@ -148,24 +148,10 @@ public final class GridMachine {
     // ---- execution
 
     public int tick(int limit) {
-        if (!isTickLimit(limit)) {
-            return INVALID_ARGUMENT;
-        }
-        if (state.isHalted()) {
-            return ILLEGAL_STATE;
-        }
-        keepForUndo();
         return advance(limit, false);
     }
 
     public int run(int limit) {
-        if (!isTickLimit(limit)) {
-            return INVALID_ARGUMENT;
-        }
-        if (state.isHalted()) {
-            return ILLEGAL_STATE;
-        }
-        keepForUndo();
         return advance(limit, true);
     }
 
@@ -417,6 +403,13 @@ public final class GridMachine {
 
     /** Performs ticks until the machine is halted or, if so wished, a breakpoint is reached. */
     private int advance(int limit, boolean heedBreakpoints) {
+        if (!isTickLimit(limit)) {
+            return INVALID_ARGUMENT;
+        }
+        if (state.isHalted()) {
+            return ILLEGAL_STATE;
+        }
+        keepForUndo();
         int done = 0;
         while (done < limit && !state.isHalted()) {
             state.performTick();
@@ -450,7 +443,7 @@ public final class GridMachine {
         for (int i = 0; i < limit; i++) {
             trial.performTick();
         }
-        // No pointer ever runs again, so a machine that halted on the way is halted still.
+        // A pointer that is not running never runs again, so a machine that halted on the way is halted still.
         if (trial.isHalted()) {
             return NONE;
         }
