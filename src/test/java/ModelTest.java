@@ -14,6 +14,13 @@ public final class ModelTest {
     private static final int RUNS = 4000;
     private static final int CALLS = 512;
     private static final String INSTRUCTIONS = "0123456789+-*/%!`:\\$><^v_|[]r#gp.~wt{}@";
+    /** Pieces of programs that do what texts of random instructions seldom do: moving values, storing, splitting. */
+    private static final String[][] THEMES = {
+        {"0{", "1{", "2{", "9{", "12", "345", "1}", "2}", "0}", "9}", ":", "\\", "67", "$", "+", "."},
+        {"66*", "78*", "99*", "34p", "05p", "00p", "20p", "91p", "12g", "40g", "~~~p", "~", "1+", "g", ".", "v"},
+        {"t", "1t", "3w", "9w", "@", "<", ">", "^", "v", "r", "[", "]", "#", ".", "5", "  ", "0_", "1|"},
+        {"~", "~.", "~t", "1{~", "~}", "~:", "~*", "~/", "~%", "~`", "~-", "~w", "~_", "~|", "~~g"},
+        {"1+:.", "1+", "01g1+01p", "t", "0{", "1}", "9w", " ", "v", ">", "30g1+30p"}};
 
     private ModelTest() {
     }
@@ -31,27 +38,30 @@ public final class ModelTest {
         private final Random random;
         private final GridMachine machine = new GridMachine();
         private final Model model = new Model();
-        private final String alphabet;
+        private final String[] pieces;
 
         Run(int seed) {
             this.seed = seed;
             random = new Random(seed);
-            alphabet = alphabetOf(random);
+            pieces = piecesOf(random);
         }
 
-        private static String alphabetOf(Random random) {
-            StringBuilder some = new StringBuilder();
-            int kinds = 3 + random.nextInt(12);
-            for (int i = 0; i < kinds; i++) {
-                some.append(INSTRUCTIONS.charAt(random.nextInt(INSTRUCTIONS.length())));
+        private static String[] piecesOf(Random random) {
+            if (random.nextInt(4) != 0) {
+                return THEMES[random.nextInt(THEMES.length)];
             }
-            return some.append("    ").toString();
+            String[] some = new String[3 + random.nextInt(12)];
+            for (int i = 0; i < some.length; i++) {
+                int instruction = random.nextInt(INSTRUCTIONS.length());
+                some[i] = INSTRUCTIONS.substring(instruction, instruction + 1);
+            }
+            return some;
         }
 
         void perform() {
             int calls = 0;
             while (calls < CALLS - 100) {
-                calls += random.nextInt(8) == 0 ? typeProgram() : oneCall();
+                calls += random.nextInt(16) == 0 ? typeProgram() : oneCall();
                 if (Due.wrongSoFar() > 0) {
                     return;
                 }
@@ -59,23 +69,35 @@ public final class ModelTest {
             Due.same("seed " + seed, Due.look(machine), model.look());
         }
 
-        private int typeProgram() {
-            int length = random.nextInt(5) == 0 ? 91 : random.nextInt(60);
-            int lineLength = 1 + random.nextInt(14);
-            for (int i = 0; i < length; i++) {
-                int character = alphabet.charAt(random.nextInt(alphabet.length()));
-                if (i % lineLength == lineLength - 1) {
-                    character = 10;
-                } else if (random.nextInt(500) == 0) {
-                    character = random.nextInt(300) - 20;
+        /** Makes a text of some rows, most of them full, and now and then an invalid one. */
+        private String text() {
+            StringBuilder text = new StringBuilder();
+            int rows = 1 + random.nextInt(random.nextInt(20) == 0 ? 7 : 3);
+            for (int row = 0; row < rows; row++) {
+                StringBuilder line = new StringBuilder();
+                while (line.length() < 12) {
+                    line.append(pieces[random.nextInt(pieces.length)]);
                 }
+                line.setLength(random.nextInt(4) == 0 ? random.nextInt(13) : 12);
+                text.append(line).append(random.nextInt(60) == 0 ? "!" : "").append('\n');
+            }
+            if (random.nextInt(20) == 0) {
+                text.insert(random.nextInt(text.length()), (char) random.nextInt(256));
+            }
+            return text.toString();
+        }
+
+        private int typeProgram() {
+            String text = text();
+            for (int i = 0; i < text.length(); i++) {
+                int character = random.nextInt(2000) == 0 ? anyInteger() : text.charAt(i);
                 check("append(" + character + ")", machine.append(character), model.append(character));
             }
             check("load()", machine.load(), model.load());
-            if (random.nextBoolean()) {
+            if (random.nextInt(4) != 0) {
                 check("clearText()", machine.clearText(), model.clearText());
             }
-            return length + 2;
+            return text.length() + 2;
         }
 
         private void check(String call, int got, int want) {
@@ -96,7 +118,7 @@ public final class ModelTest {
         }
 
         private int code() {
-            return random.nextInt(20) == 0 ? 25 + random.nextInt(110) : alphabet.charAt(random.nextInt(alphabet.length()));
+            return random.nextInt(4) == 0 ? 25 + random.nextInt(110) : pieces[random.nextInt(pieces.length)].charAt(0);
         }
 
         private int limit() {
@@ -151,9 +173,30 @@ public final class ModelTest {
             return 1;
         }
 
+        private void query() {
+            int id = anyPlace();
+            int stack = anyPlace();
+            int index = anyPlace();
+            check("pointerAt(" + id + ")", machine.pointerAt(id), model.pointerAt(id));
+            check("position(" + id + ")", machine.position(id), model.of(id, 0));
+            check("direction(" + id + ")", machine.direction(id), model.of(id, 1));
+            check("status(" + id + ")", machine.status(id), model.of(id, 2));
+            check("sleep(" + id + ")", machine.sleep(id), model.of(id, 3));
+            check("stackCount(" + id + ")", machine.stackCount(id), model.of(id, 4));
+            check("stackSize(" + id + ", " + stack + ")", machine.stackSize(id, stack), model.stackSize(id, stack));
+            check("valueAt(" + id + ", " + stack + ", " + index + ")",
+                    machine.valueAt(id, stack, index), model.valueAt(id, stack, index));
+            check("outputAt(" + index + ")", machine.outputAt(index), model.outputAt(index));
+            check("cellAt(" + stack + ", " + index + ")", machine.cellAt(stack, index), model.cellAt(stack, index));
+        }
+
+        private int anyPlace() {
+            return random.nextInt(8) == 0 ? anyInteger() : random.nextInt(5) - random.nextInt(2);
+        }
+
         private int otherCall(int limit) {
             int slot = random.nextInt(4) == 0 ? random.nextInt(5) - 2 : random.nextInt(2);
-            switch (random.nextInt(6)) {
+            switch (random.nextInt(8)) {
                 case 0:
                     check("ticksToHalt(" + limit + ")", machine.ticksToHalt(limit), model.ticksToHalt(limit));
                     break;
@@ -168,6 +211,10 @@ public final class ModelTest {
                     break;
                 case 4:
                     check("restore(" + slot + ")", machine.restore(slot), model.restore(slot));
+                    break;
+                case 5:
+                case 6:
+                    query();
                     break;
                 default:
                     check("undo()", machine.undo(), model.undo());
@@ -627,6 +674,41 @@ public final class ModelTest {
             world = slots[slot].copy();
             past.clear();
             return world.ticks;
+        }
+
+        int pointerAt(int place) {
+            return place < 0 || place >= world.order.size() ? -1 : world.order.get(place).id;
+        }
+
+        private Walker walker(int id) {
+            return world.order.stream().filter(walker -> walker.id == id).findAny().orElse(null);
+        }
+
+        /** Position, direction, status, sleep count and number of stacks of a pointer, by their numbers from 0. */
+        int of(int id, int what) {
+            Walker w = walker(id);
+            if (w == null) {
+                return -1;
+            }
+            return List.of(12 * w.y + w.x, w.heading(), w.status, w.sleep, w.stacks.size()).get(what);
+        }
+
+        int stackSize(int id, int stack) {
+            Walker w = walker(id);
+            return w == null || stack < 0 || stack >= w.stacks.size() ? -1 : w.stacks.get(stack).size();
+        }
+
+        int valueAt(int id, int stack, int index) {
+            return index < 0 || index >= stackSize(id, stack) ? 0 : walker(id).stacks.get(stack).get(index);
+        }
+
+        int outputAt(int index) {
+            int dropped = Math.max(0, world.output.size() - 20);
+            return index < 0 || index >= world.output.size() - dropped ? 0 : world.output.get(dropped + index);
+        }
+
+        int cellAt(int x, int y) {
+            return outside(x, y) ? -1 : world.grid[12 * y + x];
         }
 
         /** The same text as Due.look() makes of a machine. */
