@@ -18,6 +18,10 @@ final class Due {
         is(what, holds ? 1 : 0, 1);
     }
 
+    static int askedSoFar() {
+        return asked;
+    }
+
     static int wrongSoFar() {
         return wrong;
     }

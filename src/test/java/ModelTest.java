@@ -11,8 +11,9 @@ import java.util.Set;
  * states are texts and lists that are copied whole, and the configurations are all kept and compared in pairs.
  */
 public final class ModelTest {
-    private static final int RUNS = 4000;
-    private static final int CALLS = 512;
+    private static final int RUNS = 30000;
+    /** With the longest text behind it, and the look at all there is, a run comes to at most 512 calls. */
+    private static final int LONGEST_RUN = 110;
     private static final String INSTRUCTIONS = "0123456789+-*/%!`:\\$><^v_|[]r#gp.~wt{}@";
     /** Pieces of programs that do what texts of random instructions seldom do: moving values, storing, splitting. */
     private static final String[][] THEMES = {
@@ -59,8 +60,9 @@ public final class ModelTest {
         }
 
         void perform() {
-            int calls = 0;
-            while (calls < CALLS - 100) {
+            int length = 1 + random.nextInt(LONGEST_RUN);
+            int calls = random.nextInt(8) == 0 ? 0 : typeProgram();
+            while (calls < length) {
                 calls += random.nextInt(16) == 0 ? typeProgram() : oneCall();
                 if (Due.wrongSoFar() > 0) {
                     return;
@@ -169,11 +171,10 @@ public final class ModelTest {
                 default:
                     return otherCall(limit);
             }
-            Due.same("seed " + seed, Due.look(machine), model.look());
             return 1;
         }
 
-        private void query() {
+        private int query() {
             int id = anyPlace();
             int stack = anyPlace();
             int index = anyPlace();
@@ -188,6 +189,7 @@ public final class ModelTest {
                     machine.valueAt(id, stack, index), model.valueAt(id, stack, index));
             check("outputAt(" + index + ")", machine.outputAt(index), model.outputAt(index));
             check("cellAt(" + stack + ", " + index + ")", machine.cellAt(stack, index), model.cellAt(stack, index));
+            return 10;
         }
 
         private int anyPlace() {
@@ -196,7 +198,7 @@ public final class ModelTest {
 
         private int otherCall(int limit) {
             int slot = random.nextInt(4) == 0 ? random.nextInt(5) - 2 : random.nextInt(2);
-            switch (random.nextInt(8)) {
+            switch (random.nextInt(7)) {
                 case 0:
                     check("ticksToHalt(" + limit + ")", machine.ticksToHalt(limit), model.ticksToHalt(limit));
                     break;
@@ -213,14 +215,11 @@ public final class ModelTest {
                     check("restore(" + slot + ")", machine.restore(slot), model.restore(slot));
                     break;
                 case 5:
-                case 6:
-                    query();
-                    break;
+                    return query();
                 default:
                     check("undo()", machine.undo(), model.undo());
                     break;
             }
-            Due.same("seed " + seed, Due.look(machine), model.look());
             return 1;
         }
     }

@@ -1,3 +1,6 @@
+import java.util.List;
+import java.util.function.ToIntFunction;
+
 /** The promises 1 to 33, a method each: ordinary inputs, the edges that the document names, and wrong inputs. */
 public final class PromisesTest {
     private static final int MIN = Integer.MIN_VALUE;
@@ -41,6 +44,7 @@ public final class PromisesTest {
         promise30TickCount();
         promise31Save();
         promise32Restore();
+        promise32RestoreOfTheOtherSlot();
         promise33UndoDepth();
         errorsChangeNothing();
         Due.end();
@@ -56,6 +60,10 @@ public final class PromisesTest {
         x.setBreakpoint(3, 3, 1);
         x.tick(8);
         return x;
+    }
+
+    private static String lookAtState(GridMachine x) {
+        return Due.look(x).replaceAll(" undo .*", "");
     }
 
     private static void promise1NewObject() {
@@ -386,30 +394,38 @@ public final class PromisesTest {
         Due.is("restore() keeps the breakpoints", all.setBreakpoint(1, 0, 0), -2);
     }
 
-    private static void promise11Undo() {
+    /** Makes so many of six calls that save a state, behind a load(). */
+    private static GridMachine savedTimes(int count) {
         GridMachine x = Due.machine("12t3.~0{4w\n  @");
-        String[] seen = new String[6];
-        seen[0] = Due.look(x);
-        x.feed(5);
-        seen[1] = Due.look(x);
-        x.poke(4, 4, 'K');
-        seen[2] = Due.look(x);
-        x.tick(9);
-        seen[3] = Due.look(x);
-        x.run(3);
-        seen[4] = Due.look(x);
-        x.rewind();
-        seen[5] = Due.look(x);
-        Due.type(x, "xyz");
-        x.load();
-        Due.type(x, "pq");
-        for (int i = 5; i >= 0; i--) {
-            Due.is("undo()", x.undo(), i);
-            // With the seventh state the first one was discarded, so one state fewer is saved than at that time.
-            Due.same("undo()", Due.look(x).replaceAll(" undo .*", ""), seen[i].replaceAll(" undo .*", ""));
+        List<ToIntFunction<GridMachine>> calls = List.of(y -> y.feed(5), y -> y.poke(4, 4, 'K'), y -> y.tick(9),
+                y -> y.run(3), GridMachine::rewind, PromisesTest::typeAndLoad);
+        for (ToIntFunction<GridMachine> call : calls.subList(0, count)) {
+            Due.isTrue("a call that saves the state", call.applyAsInt(x) >= 0);
         }
-        Due.is("undo() of none", x.undo(), -2);
-        Due.is("undo() keeps the text", x.clearText(), 2);
+        return x;
+    }
+
+    private static int typeAndLoad(GridMachine x) {
+        Due.type(x, "xyz");
+        return x.load();
+    }
+
+    private static void promise11Undo() {
+        for (int back = 1; back <= 6; back++) {
+            GridMachine x = savedTimes(6);
+            for (int i = 1; i <= back; i++) {
+                // With the seventh state the first one was discarded.
+                Due.is("undo()", x.undo(), 6 - i);
+            }
+            Due.same("undo() " + back + " times", lookAtState(x), lookAtState(savedTimes(6 - back)));
+        }
+        GridMachine none = savedTimes(6);
+        Due.type(none, "pq");
+        for (int i = 5; i >= 0; i--) {
+            Due.is("undo()", none.undo(), i);
+        }
+        Due.is("undo() of none", none.undo(), -2);
+        Due.is("undo() keeps the text", none.clearText(), 2);
         GridMachine program = Due.machine("ab");
         Due.type(program, "cd");
         program.load();
@@ -768,12 +784,8 @@ public final class PromisesTest {
         }
         Due.is("restore(0) of an empty slot", x.restore(0), -2);
         Due.is("restore of an empty slot keeps the saved states", x.undoDepth(), 6);
-        String before = Due.look(x).replaceAll(" undo .*", "");
+        String before = lookAtState(x);
         x.save(0);
-        x.tick(3);
-        x.feed(77);
-        String later = Due.look(x).replaceAll(" undo .*", "");
-        x.save(1);
         Due.type(x, "other");
         x.load();
         Due.type(x, "pq");
@@ -784,6 +796,18 @@ public final class PromisesTest {
         x.tick(4);
         Due.is("restore(0) again", x.restore(0), 8);
         Due.same("restore(0) again", Due.look(x), before + " undo 0");
+    }
+
+    private static void promise32RestoreOfTheOtherSlot() {
+        GridMachine x = busy();
+        x.save(0);
+        x.tick(3);
+        x.feed(77);
+        String later = lookAtState(x);
+        x.save(1);
+        Due.type(x, "other");
+        x.load();
+        Due.is("restore(0)", x.restore(0), 8);
         Due.is("restore(1)", x.restore(1), 11);
         Due.same("restore(1)", Due.look(x), later + " undo 0");
         x.rewind();
