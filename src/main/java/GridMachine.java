@@ -578,9 +578,10 @@ public final class GridMachine {
 
         void performTick() {
             int existing = pointersUsed;
-            for (int place = 0; place < pointersUsed; place++) {
+            // A split makes the list longer while it is gone through, so the loop's bound is the longest list.
+            for (int place = 0; place < POINTER_LIMIT; place++) {
                 // Identifiers follow the order of creation: one that is not below this number is new in this tick.
-                if (order[place] < existing) {
+                if (place < pointersUsed && order[place] < existing) {
                     takeTurn(place);
                 }
             }

@@ -8,6 +8,8 @@ import java.nio.file.Path;
 import java.util.Arrays;
 import java.util.Set;
 import java.util.TreeSet;
+import java.util.regex.Matcher;
+import java.util.regex.Pattern;
 
 /** The public face of the document, and the rules of LANGUAGE.md that can be seen in the class or in its text. */
 public final class FaceTest {
@@ -20,6 +22,7 @@ public final class FaceTest {
     private static final String[] CONSTANTS = {"INVALID_ARGUMENT", "ILLEGAL_STATE", "CAPACITY_EXCEEDED", "NONE"};
     private static final String[] FORBIDDEN = {"throw", "try", "catch", "synchronized", "assert", "import", "package",
         "protected", "throws", "finally", "native", "transient", "volatile"};
+    private static final Set<String> LIBRARY = Set.of("System.arraycopy", "Math.floorMod", "Math.max", "Math.min");
     private static final int LONGEST_METHOD = 60;
 
     private FaceTest() {
@@ -33,6 +36,7 @@ public final class FaceTest {
         Path file = Path.of(System.getProperty("project.root", "."), "src/main/java/GridMachine.java");
         String source = Files.readString(file, StandardCharsets.US_ASCII);
         theWords(source);
+        theLibrary(source);
         theLengthOfMethods(source);
         Due.end();
     }
@@ -131,6 +135,17 @@ public final class FaceTest {
             char sign = source.charAt(i);
             Due.isTrue("plain signs", sign == '\n' || sign >= 32 && sign <= 126);
         }
+    }
+
+    /** What the class uses of the library stands in rule 4 and throws for no argument that it is given. */
+    private static void theLibrary(String source) {
+        Matcher use = Pattern.compile("\\b[A-Z]\\w*[a-z]\\w*\\.\\w+").matcher(withoutComments(source));
+        int uses = 0;
+        while (use.find()) {
+            uses++;
+            Due.isTrue(use.group() + " is a use of the library that was looked at", LIBRARY.contains(use.group()));
+        }
+        Due.isTrue("the uses of the library were found", uses > LIBRARY.size());
     }
 
     /** Methods of the class stand four signs in, those of the classes inside it eight. */
